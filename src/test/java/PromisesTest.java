@@ -607,6 +607,8 @@ public final class PromisesTest {
         due(30, x.look(1, 10, 30, 3));
         due(20, x.look(1, 11, 30, 2));
         due(20, x.look(1, 10, 29, 3));
+        due(10, x.look(1, 10, 10, 3));
+        due(10, x.look(1, 10, 10, 2));
         due(-1, x.look(2, 21, 255, 2));
         due(-1, x.look(2, 0, 9, 3));
         due(0, x.look(0, 0, 255, 1));

@@ -10,6 +10,8 @@ public final class RandomRunsTest {
     private final int keys;
     private final int transactions;
     private final boolean wild;
+    // Long transactions come to their eighth key and eighth part.
+    private final boolean lengthy;
 
     private RandomRunsTest(int seed) {
         random = new Random(seed);
@@ -17,6 +19,7 @@ public final class RandomRunsTest {
         keys = new int[] {4, 12, 40, 256}[seed % 4];
         transactions = new int[] {3, 16, 6}[seed % 3];
         wild = seed % 5 == 0;
+        lengthy = seed % 7 == 0;
     }
 
     public static void main(String[] args) {
@@ -56,8 +59,8 @@ public final class RandomRunsTest {
     }
 
     private void oneCall(int seed, int call) {
-        int kind = random.nextInt(100);
-        int t = below(transactions == 16 ? 16 : transactions);
+        int kind = random.nextInt(lengthy && random.nextInt(8) != 0 ? 50 : 100);
+        int t = below(transactions);
         int server = below(4);
         int key = key();
         int a = key();

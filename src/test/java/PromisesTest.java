@@ -1,14 +1,5 @@
 /** For each promise of the document: ordinary inputs, the edges that it names, and wrong inputs. */
-public final class PromisesTest {
-    private static final String IAE = Due.IAE;
-    private static final String ISE = Due.ISE;
-    private static final String IOOBE = Due.IOOBE;
-    private static final String UOE = Due.UOE;
-    private static final String DONE = Due.DONE;
-    private static final int[] FAR = {-1, Integer.MIN_VALUE, Integer.MAX_VALUE};
-
-    private static String where = "";
-
+public final class PromisesTest extends Sheet {
     public static void main(String[] args) {
         newObject();
         callThatThrowsChangesNothing();
@@ -32,29 +23,6 @@ public final class PromisesTest {
         intention();
         count();
         Due.end();
-    }
-
-    private static Face fresh(String title) {
-        where = title;
-        return new Real();
-    }
-
-    private static void due(Object want, String got) {
-        StackTraceElement caller = Thread.currentThread().getStackTrace()[2];
-        Due.due(where + ", line " + caller.getLineNumber() + ":", want, got);
-    }
-
-    /** A committed TRANSACTION 15 at a SERVER that writes one KEY and reads nothing. */
-    private static void write(Face x, int server, int key, long v) {
-        x.begin(15, server, 0);
-        x.put(15, key, v);
-        x.commit(15);
-    }
-
-    private static void erase(Face x, int server, int key) {
-        x.begin(15, server, 0);
-        x.delete(15, key);
-        x.commit(15);
     }
 
     private static void newObject() {
@@ -290,7 +258,7 @@ public final class PromisesTest {
     }
 
     private static void partWrongInputs(Face x) {
-        where = "promise 6, wrong inputs";
+        title("promise 6, wrong inputs");
         due(ISE, x.part(2, 0, 255, 0));
         due(IAE, x.part(2, 1, 0, 0));
         due(IAE, x.part(0, 255, 254, 0));
@@ -365,9 +333,7 @@ public final class PromisesTest {
         x.begin(0, 0, 0);
         x.begin(1, 0, 0);
         x.put(1, 2, 2);
-        for (int i = 0; i < 400; i++) {
-            write(x, 0, i % 256, i);
-        }
+        fillLog(x);
         due(400, x.count(0, 0, 0));
         due(IOOBE, x.commit(1));
         due(2, x.count(1, 0, 0));

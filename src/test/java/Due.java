@@ -18,8 +18,14 @@ final class Due {
         try {
             return String.valueOf(call.get());
         } catch (RuntimeException e) {
-            return "throws." + e.getClass().getSimpleName();
+            return "throws." + e.getClass().getSimpleName() + (isThrownByTheClass(e) ? "" : " out of the library");
         }
+    }
+
+    /** LANGUAGE.md, rule 7: only a throw statement throws, so a list's own exception is not the one that is due. */
+    private static boolean isThrownByTheClass(RuntimeException e) {
+        StackTraceElement[] trace = e.getStackTrace();
+        return trace.length > 0 && trace[0].getClassName().startsWith("MeldHost");
     }
 
     static String answer(Runnable call) {

@@ -22,6 +22,7 @@ public final class TermsEdgesTest extends Sheet {
         seesTheStateAsItBegan();
         seesItsOwnWrites();
         atMostEightKeys();
+        eighthKeyCountsLikeTheFirst();
         atMostEightParts();
         readsWithoutEnd();
         readIfNotWrittenBefore();
@@ -501,6 +502,30 @@ public final class TermsEdgesTest extends Sheet {
         due(1, x.intention(1, 4));
         x.begin(0, 0, 0);
         due(1, x.put(0, 8, 1));
+    }
+
+    private static void eighthKeyCountsLikeTheFirst() {
+        Face x = fresh("Terms 2: at most 8 KEYS (the eighth counts like the first)");
+        for (int t = 0; t < 5; t++) {
+            x.begin(t, 0, t / 4);
+        }
+        for (int i = 0; i < 8; i++) {
+            x.put(0, 10 + i, i);
+        }
+        x.get(1, 17);
+        x.put(1, 1, 1);
+        x.part(2, 17, 17, 0);
+        x.put(2, 2, 1);
+        x.get(3, 18);
+        x.put(3, 3, 1);
+        x.put(4, 17, 1);
+        due(1, committedVerdict(x, 0));
+        due(7, x.state(3, 17));
+        due(0, x.count(4, 3, 17));
+        due(2, committedVerdict(x, 1));
+        due(2, committedVerdict(x, 2));
+        due(1, committedVerdict(x, 3));
+        due(2, committedVerdict(x, 4));
     }
 
     private static void atMostEightParts() {

@@ -6,7 +6,7 @@ import java.util.ArrayList;
 import java.util.Arrays;
 import java.util.List;
 
-/** The class has the document's face and nothing beside it that others can see. */
+/** The class has the document's face and nothing beside it that others can see, by LANGUAGE.md, rules 1 and 5. */
 public final class FaceTest {
     private static final String A = " IllegalArgumentException";
     private static final String S = " IllegalStateException";
@@ -36,7 +36,38 @@ public final class FaceTest {
         for (Field field : MeldHost.class.getDeclaredFields()) {
             Due.due("field " + field.getName() + " is private", true, "" + Modifier.isPrivate(field.getModifiers()));
         }
+        noPrivateMethodBearsAPublicName(MeldHost.class);
+        staticFieldsAreFinal(MeldHost.class);
+        for (Class<?> inside : MeldHost.class.getDeclaredClasses()) {
+            classInside(inside);
+        }
         Due.end();
+    }
+
+    /** LANGUAGE.md, rule 1: classes inside are private or package-visible, and static. */
+    private static void classInside(Class<?> inside) {
+        int modifiers = inside.getModifiers();
+        boolean isShown = Modifier.isPublic(modifiers) || Modifier.isProtected(modifiers);
+        Due.due(inside + " is static and not shown", true, "" + (Modifier.isStatic(modifiers) && !isShown));
+        noPrivateMethodBearsAPublicName(inside);
+        staticFieldsAreFinal(inside);
+    }
+
+    /** LANGUAGE.md, rule 1. */
+    private static void noPrivateMethodBearsAPublicName(Class<?> owner) {
+        for (Method method : owner.getDeclaredMethods()) {
+            boolean bears = Arrays.stream(FACE).anyMatch(f -> f.contains(" " + method.getName() + "("));
+            boolean isOfTheFace = owner == MeldHost.class && Modifier.isPublic(method.getModifiers());
+            Due.due(owner + ", " + method.getName() + " bears a public name", isOfTheFace, "" + bears);
+        }
+    }
+
+    /** LANGUAGE.md, rule 5. */
+    private static void staticFieldsAreFinal(Class<?> owner) {
+        for (Field field : owner.getDeclaredFields()) {
+            boolean isFree = !Modifier.isStatic(field.getModifiers()) || Modifier.isFinal(field.getModifiers());
+            Due.due(owner + ", " + field.getName() + " is no static that changes", true, "" + isFree);
+        }
     }
 
     private static String constructors() {
